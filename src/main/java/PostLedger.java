@@ -348,7 +348,8 @@ public final class PostLedger {
         }
 
         void addRowsWithOtherSign(Batch original) {
-            for (int i = 0; i < original.rows.size(); i++) {
+            int count = original.rows.size();
+            for (int i = 0; i < count; i++) {
                 Row row = original.rows.get(i);
                 addRow(row.account, -row.cents);
             }

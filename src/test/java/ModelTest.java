@@ -7,8 +7,8 @@ import java.util.Random;
 public final class ModelTest {
     private static final int RUNS = 1500, CALLS = 512;
     private static final long[] ODD_NUMBERS = {
-        Long.MIN_VALUE, Long.MAX_VALUE, Integer.MIN_VALUE, Integer.MAX_VALUE, 1L << 32, -1, 0, 1, 12, 13, 60, 61, 300,
-        301, 20000, 20001, 100000000, 100000001, -100000000, -100000001, 1000000000, 1000000001
+        Long.MIN_VALUE, Long.MAX_VALUE, Integer.MIN_VALUE, Integer.MAX_VALUE, 1L << 32, -1, 0, 1, 5, 6, 9, 10, 12, 13,
+        60, 61, 300, 301, 20000, 20001, 100000000, 100000001, -100000000, -100000001, 1000000000, 1000000001
     };
 
     private static final Due due = new Due();
@@ -19,6 +19,7 @@ public final class ModelTest {
     private final int run;
     private final boolean large;
     private final boolean crowded;
+    private final int firstAccounts;
     private int calls = 0;
     private int accounts = 0, batches = 0;
     private int draft = 0;
@@ -29,6 +30,7 @@ public final class ModelTest {
         random = new Random(run);
         large = run % 4 == 0;
         crowded = run % 5 == 0;
+        firstAccounts = run % 7 == 0 ? 59 : 6;
     }
 
     public static void main(String[] args) {
@@ -44,8 +46,8 @@ public final class ModelTest {
 
     private void callOnce() {
         int choice = random.nextInt(100);
-        if (accounts < 6 || choice < 2) callAccount();
-        else if (choice < (crowded ? 50 : 12)) callBatch();
+        if (accounts < firstAccounts || choice < 2) callAccount();
+        else if (choice < (crowded && batches < 298 ? 75 : 12)) callBatch();
         else if (choice < 45) callRow();
         else if (choice < 50) callBalancingRow();
         else if (choice < 62) callPost();
