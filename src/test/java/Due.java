@@ -4,16 +4,22 @@ final class Due {
     static final long THROWS = Long.MIN_VALUE;
 
     private int wrong = 0;
+    private String test = "";
+
+    /** Names the test that the answers from now on belong to. */
+    void begin(String name) {
+        test = name + ": ";
+    }
 
     void is(String call, long got, long want) {
         if (got != want) {
-            wrong++;
-            System.out.println(call + " answered " + told(got) + ", due is " + told(want));
+            fault(call + " answered " + told(got) + ", due is " + told(want));
         }
     }
 
-    void is(String call, boolean got, boolean want) {
-        is(call, got ? 1 : 0, want ? 1 : 0);
+    void fault(String words) {
+        wrong++;
+        System.out.println(test + words);
     }
 
     int wrong() {

@@ -28,7 +28,7 @@ public final class FaceTest {
         "public int PostLedger.rows()",
         "public long PostLedger.all()");
 
-    private static int wrong = 0;
+    private static final Due due = new Due();
 
     public static void main(String[] args) {
         Set<String> shown = shownMembers();
@@ -36,12 +36,10 @@ public final class FaceTest {
         tellMissing("the face should not show ", shown, FACE);
         checkNamesOfPrivateMethods();
         checkModifiers();
-        Due due = new Due();
         due.is("UNKNOWN", PostLedger.UNKNOWN, -2000000001L);
         due.is("OUTSIDE", PostLedger.OUTSIDE, -2000000002L);
         due.is("STATE", PostLedger.STATE, -2000000003L);
         due.is("ROOM", PostLedger.ROOM, -2000000004L);
-        due.is("faults of the face", wrong, 0);
         due.endProgram("FaceTest");
     }
 
@@ -68,7 +66,7 @@ public final class FaceTest {
     private static void tellMissing(String words, Set<String> wanted, Set<String> there) {
         for (String member : wanted) {
             if (!there.contains(member)) {
-                tellFault(words + member);
+                due.fault(words + member);
             }
         }
     }
@@ -80,7 +78,7 @@ public final class FaceTest {
         }
         for (Method method : PostLedger.class.getDeclaredMethods()) {
             if (Modifier.isPrivate(method.getModifiers()) && publicNames.contains(method.getName())) {
-                tellFault("a private method bears a public one's name: " + method);
+                due.fault("a private method bears a public one's name: " + method);
             }
         }
     }
@@ -88,18 +86,13 @@ public final class FaceTest {
     private static void checkModifiers() {
         int ofClass = PostLedger.class.getModifiers();
         if (!Modifier.isPublic(ofClass) || !Modifier.isFinal(ofClass)) {
-            tellFault("the class is not public and final");
+            due.fault("the class is not public and final");
         }
         for (Class<?> inside : PostLedger.class.getDeclaredClasses()) {
             int modifiers = inside.getModifiers();
             if (!Modifier.isStatic(modifiers) || Modifier.isPublic(modifiers) || Modifier.isProtected(modifiers)) {
-                tellFault("a class inside is not static, or shown: " + inside);
+                due.fault("a class inside is not static, or shown: " + inside);
             }
         }
-    }
-
-    private static void tellFault(String words) {
-        wrong++;
-        System.out.println(words);
     }
 }
